@@ -183,14 +183,14 @@ public final class SightChart {
         if (refusal != ALLOWED) return refusal;
         long now = bestOfChart();
         worlds.takeChart();
-        worlds.trySight(choice, chance);
+        worlds.supposeSight(choice, chance);
         return tellFraction(worlds.greatest() - now);
     }
 
     public int knowing() {
         long now = bestOfChart();
         worlds.takeChart();
-        worlds.tryAllSights();
+        worlds.supposeAllSights();
         return tellFraction(worlds.greatest() - now);
     }
 
@@ -199,7 +199,7 @@ public final class SightChart {
         if (chart.nodes[chance].kind != CHANCE) return find(UNLIKE);
         long now = bestOfChart();
         worlds.takeChart();
-        worlds.tryInHand(chance);
+        worlds.supposeInHand(chance);
         return tellFraction(worlds.greatest() - now);
     }
 
@@ -208,7 +208,7 @@ public final class SightChart {
         if (refusal != ALLOWED) return refusal;
         long now = bestOfChart();
         worlds.takeChart();
-        worlds.tryBlind(choice, chance);
+        worlds.supposeBlind(choice, chance);
         return worlds.greatest() == now ? 1 : 0;
     }
 
@@ -573,7 +573,7 @@ public final class SightChart {
 
     /**
      * All WORLDS of the chart, numbered with the first NODE's STATE counting least, and THE BEST PLAN
-     * in them. What is tried changes the SIGHTS here and never those of the chart.
+     * in them. What is supposed changes the SIGHTS here and never those of the chart.
      */
     private static final class Worlds {
         final Chart chart = new Chart();
@@ -596,15 +596,15 @@ public final class SightChart {
             for (int n = 0; n < MOST_NODES; n++) sights[n] = chart.nodes[n].sights;
         }
 
-        void trySight(int choice, int chance) {
+        void supposeSight(int choice, int chance) {
             if (chart.has(choice)) sights[choice] |= 1 << chance;
         }
 
-        void tryBlind(int choice, int chance) {
+        void supposeBlind(int choice, int chance) {
             if (chart.has(choice)) sights[choice] &= ~(1 << chance);
         }
 
-        void tryAllSights() {
+        void supposeAllSights() {
             int chances = 0;
             for (int n = 0; n < chart.nodeCount; n++) {
                 if (chart.nodes[n].kind == CHOICE) sights[n] = chances;
@@ -612,7 +612,7 @@ public final class SightChart {
             }
         }
 
-        void tryInHand(int chance) {
+        void supposeInHand(int chance) {
             if (!chart.has(chance)) return;
             handNode = chance;
             sights[chance] = 0;
@@ -709,13 +709,13 @@ public final class SightChart {
 
         void settleBehind(int first) {
             for (int n = chart.nodeCount - 1; n > first; n--) {
-                if (isFree(n)) settleChoice(n);
+                if (!isFree(n)) continue;
+                sumUp(n);
+                dropOthers(chart.nodes[n]);
             }
         }
 
-        void settleChoice(int choice) {
-            Node node = chart.nodes[choice];
-            sumUp(choice);
+        void dropOthers(Node node) {
             for (int w = 0; w < size; w++) {
                 if (weight[w] == 0) continue;
                 int state = node.stateIn(w);
@@ -894,10 +894,14 @@ public final class SightChart {
                 Node node = chart.nodes[n];
                 if (!node.isFree()) continue;
                 for (int w = 0; w < worlds.size; w++) {
-                    need[w] |= 1 << MOST_STATES * (slot + wayIn(chart, node, w)) + node.stateIn(w);
+                    need[w] |= bit(slot + wayIn(chart, node, w), node.stateIn(w));
                 }
                 slot += sightWays(chart, node);
             }
+        }
+
+        static int bit(int slot, int state) {
+            return 1 << (MOST_STATES * slot + state);
         }
 
         int planBits(int plan) {
@@ -906,7 +910,7 @@ public final class SightChart {
             for (int k = 0; k < slotCount && k < MOST_SLOTS; k++) {
                 int states = slotStates[k];
                 if (states < 1) continue;
-                bits |= 1 << MOST_STATES * k + rest % states;
+                bits |= bit(k, rest % states);
                 rest /= states;
             }
             return bits;
