@@ -42,7 +42,8 @@ public final class ModelTest {
         int skip = dice.nextInt(3);
         for (int k = 0; k < kinds.length && m.nodes.size() < 7; k++) {
             int kind = k < 2 && skip == k ? 3 - kinds[k] : kinds[k];
-            int states = m.worldCount() * 3 <= mostWorlds && dice.nextInt(3) == 0 ? 3 : 2;
+            boolean full = run % 14 == 6;
+            int states = full || m.worldCount() * 3 <= mostWorlds && dice.nextInt(3) == 0 ? 3 : 2;
             if (m.worldCount() * states > mostWorlds) break;
             due("node", x.node(kind, states), m.node(kind, states));
             int n = m.nodes.size() - 1;

@@ -21,6 +21,7 @@ public final class PlansTest {
         chances();
         ends();
         refusedTellsNothing();
+        mostWorlds();
         DUE.end();
     }
 
@@ -454,5 +455,47 @@ public final class PlansTest {
         x.needless(2, 0);
         DUE.is("31 upper() as before", x.upper(), 7);
         DUE.is("32 lower() as before", x.lower(), 12);
+    }
+
+    /** 243 WORLDS: 2 sees 0 and is to be like it, for 9; 1, 3 and 4, which sees 1, all alike, for 27. */
+    private static void mostWorlds() {
+        SightChart x = new SightChart();
+        int[] kinds = {1, 1, 2, 1, 2, 0, 0};
+        for (int n = 0; n < kinds.length; n++) {
+            x.node(kinds[n], 3);
+            x.weigh(n, 0, 4, 4);
+        }
+        DUE.is("33 most WORLDS", x.count(4), 243);
+        x.sight(2, 0);
+        x.sight(4, 1);
+        x.parent(5, 0);
+        x.parent(5, 2);
+        for (int p = 0; p < 9; p += 4) x.worth(5, p, 9);
+        x.parent(6, 1);
+        x.parent(6, 3);
+        x.parent(6, 4);
+        for (int p = 0; p < 27; p += 13) x.worth(6, p, 27);
+        DUE.tells("14 of 243", x, x.best(), 18, 1);
+        DUE.tells("19 of 243", x, x.knowing(), 0, 1);
+        DUE.tells("18 of 243", x, x.worthOf(4, 3), 0, 1);
+        DUE.is("21 of 243", x.needless(4, 1), 0);
+        DUE.is("16 729 plans", x.bestForgetting(), SightChart.SPENT);
+        DUE.tells("23 of 243", x, x.chance(4, 2), 1, 3);
+        DUE.asks("24 of 243", x, x.end(true), 36);
+        DUE.asks("24 of 243", x, x.end(false), 9);
+        x.row(0, 4);
+        for (int n = 0; n < 3; n++) x.lay(0, n, 2 - n);
+        DUE.is("15 of 243", x.does(2, 0), 2);
+        DUE.is("15 of 243", x.does(4, 0), 1);
+        DUE.asks("22 of 243", x, x.span(5, 0, false), 0);
+        DUE.asks("22 of 243", x, x.span(5, 3, true), 9);
+        DUE.asks("22 of 243", x, x.span(5, 8, false), -100);
+        x.blind(4, 1);
+        DUE.tells("16 of 243", x, x.bestForgetting(), 12, 1);
+        DUE.tells("17 of 243", x, x.lost(), 0, 1);
+        DUE.tells("20 of 243", x, x.inHand(1), 6, 1);
+        DUE.tells("20 of 243", x, x.inHand(3), 6, 1);
+        x.firm(4, 2);
+        DUE.tells("14 of 243, FIRM", x, x.best(), 12, 1);
     }
 }
