@@ -80,7 +80,7 @@ public final class SightChart {
     public int weigh(int chance, int row, int w0, int w1) {
         if (!chart.has(chance)) return BAD;
         Node node = chart.nodes[chance];
-        if (!areWeights(w0, w1, node.states)) return BAD;
+        if (!areWeights(w0, w1) || !node.mayLeave(WHOLE_WEIGHT - w0 - w1)) return BAD;
         if (node.kind != CHANCE) return find(UNLIKE);
         if (!node.hasPlace(row)) return find(BEYOND);
         int from = row * node.states;
@@ -335,9 +335,8 @@ public final class SightChart {
     }
 
     /** Each is looked at alone first, so that their sum can't run over. */
-    private static boolean areWeights(int w0, int w1, int states) {
-        if (w0 < 0 || w0 > WHOLE_WEIGHT || w1 < 0 || w1 > WHOLE_WEIGHT - w0) return false;
-        return states != 2 || w0 + w1 == WHOLE_WEIGHT;
+    private static boolean areWeights(int w0, int w1) {
+        return w0 >= 0 && w0 <= WHOLE_WEIGHT && w1 >= 0 && w1 <= WHOLE_WEIGHT - w0;
     }
 
     private int refuseSight(int choice, int chance) {
@@ -418,6 +417,11 @@ public final class SightChart {
             Arrays.fill(table, 0);
             if (kind != CHANCE || states < 1) return;
             for (int i = 0; i < MOST_PLACES; i += states) table[i] = WHOLE_WEIGHT;
+        }
+
+        /** Only a CHANCE has WEIGHTS: what they leave can be no fault of a NODE of another KIND. */
+        boolean mayLeave(int rest) {
+            return kind != CHANCE || states == MOST_STATES || rest == 0;
         }
 
         int mostParents() {

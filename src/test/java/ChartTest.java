@@ -10,6 +10,7 @@ public final class ChartTest {
         sights();
         blinds();
         weighs();
+        weighsNoChance();
         weights();
         worths();
         firms();
@@ -204,6 +205,24 @@ public final class ChartTest {
         DUE.is("6 two STATES", x.weigh(0, 0, 0, 12), 1);
         DUE.is("6 STATE 1", x.weight(0, 0, 1), 12);
         DUE.is("6 STATE 0", x.weight(0, 0, 0), 0);
+    }
+
+    /** That nothing may be left of 12 with 2 STATES is told of CHANCES alone. */
+    private static void weighsNoChance() {
+        SightChart x = chart(0, 0, 2, 2, 2, 3, 2, 2);
+        x.firm(3, 1);
+        long before = x.digest();
+        int[][] good = {{0, 0}, {11, 0}, {0, 11}, {6, 5}, {6, 6}, {12, 0}, {0, 12}};
+        int[][] bad = {{13, 0}, {0, 13}, {7, 6}, {12, 1}, {-1, 0}, {0, -1}, {-1, 13}, {13, -1},
+            {Integer.MAX_VALUE, 1}, {Integer.MIN_VALUE, Integer.MIN_VALUE}};
+        for (int n = 0; n < 4; n++) {
+            for (int r : new int[] {-1, 0, 1, Integer.MAX_VALUE}) {
+                for (int[] g : good) DUE.finds("6 no CHANCE", x, x.weigh(n, r, g[0], g[1]), UNLIKE);
+                for (int[] b : bad) DUE.is("6 BAD ahead of UNLIKE", x.weigh(n, r, b[0], b[1]), SightChart.BAD);
+            }
+        }
+        DUE.is("6 how often UNLIKE", x.findings(UNLIKE), 4 * 4 * good.length);
+        DUE.is("6 nothing changed", x.digest(), before);
     }
 
     private static void weights() {

@@ -117,7 +117,8 @@ final class Model {
         if (no(chance)) return BAD;
         N n = nodes.get(chance);
         long both = (long) w0 + w1;
-        if (w0 < 0 || w1 < 0 || both > 12 || n.states == 2 && both != 12) return BAD;
+        if (w0 < 0 || w1 < 0 || both > 12) return BAD;
+        if (n.kind == 1 && n.states == 2 && both != 12) return BAD;
         if (n.kind != 1) return find(UNLIKE);
         if (row < 0 || row >= placesOf(n)) return find(BEYOND);
         n.table[row * n.states] = w0;
