@@ -699,7 +699,8 @@ public final class SightChart {
 
         /** THE BEST, as a part of chart.wholeWeight(). */
         long greatest() {
-            settle();
+            layOut();
+            settleBehind(-1);
             long total = 0;
             for (int w = 0; w < size; w++) total += (long) weight[w] * worth[w];
             return total;
