@@ -5,6 +5,8 @@ import java.lang.reflect.Modifier;
 import java.nio.file.Files;
 import java.nio.file.Path;
 import java.util.Arrays;
+import java.util.Map;
+import java.util.TreeMap;
 import java.util.TreeSet;
 import java.util.regex.Matcher;
 import java.util.regex.Pattern;
@@ -25,7 +27,9 @@ public final class LanguageTest {
     public static void main(String[] args) throws Exception {
         face();
         nestedClasses();
-        words(Files.readString(Path.of("src/main/java/SightChart.java")));
+        String source = Files.readString(Path.of("src/main/java/SightChart.java"));
+        words(source);
+        depth(codeOf(source));
         DUE.end();
     }
 
@@ -77,8 +81,36 @@ public final class LanguageTest {
         }
     }
 
+    private static String codeOf(String source) {
+        return source.replaceAll("(?s)/\\*.*?\\*/", " ").replaceAll("//[^\n]*", " ");
+    }
+
+    /** Methods of one name are taken as one, and calls between these as one call more. */
+    private static void depth(String code) {
+        Map<String, String> bodies = new TreeMap<>();
+        Matcher heads = Pattern.compile("(?m)^ {4,8}[\\w\\[\\] ]*?(\\w+)\\([^)]*\\) \\{\\n").matcher(code);
+        while (heads.find()) {
+            String margin = heads.group().replaceAll("(?s)\\S.*", "");
+            int end = code.indexOf("\n" + margin + "}", heads.end() - 1);
+            bodies.merge(heads.group(1), code.substring(heads.end(), end), String::concat);
+        }
+        none("no methods found", bodies.size() < FACE.length);
+        for (String name : bodies.keySet()) none(name + " calls more than eight deep", depthOf(name, bodies, 0) > 8);
+    }
+
+    private static int depthOf(String name, Map<String, String> bodies, int above) {
+        int deepest = Pattern.compile("\\b" + name + "\\(").matcher(bodies.get(name)).find() ? 1 : 0;
+        Matcher calls = Pattern.compile("(?<!Arrays\\.)\\b(\\w+)\\(").matcher(bodies.get(name));
+        while (above < 20 && calls.find()) {
+            if (bodies.containsKey(calls.group(1)) && !calls.group(1).equals(name)) {
+                deepest = Math.max(deepest, depthOf(calls.group(1), bodies, above + 1));
+            }
+        }
+        return deepest + 1;
+    }
+
     private static void words(String source) {
-        String code = source.replaceAll("(?s)/\\*.*?\\*/", " ").replaceAll("//[^\n]*", " ");
+        String code = codeOf(source);
         String[] never = {"throw", "throws", "try", "catch", "synchronized", "assert", "package", "Object",
             "hashCode", "equals", "toString", "Random", "Thread", "\\w+Exact", "protected", "double", "float"};
         for (String word : never) {

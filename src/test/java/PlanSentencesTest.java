@@ -80,15 +80,10 @@ public final class PlanSentencesTest {
         return x;
     }
 
-    private static int does(SightChart x, int choice, int... states) {
-        Scenes.lays(x, 0, states);
-        return x.does(choice, 0);
-    }
-
     @Says(promise = 15, words = "What THE BEST PLAN does at a CHOICE, if what is KNOWN there is told by a ROW")
     static void doesWhereItCantComeAbout(Due due) {
         int[][] wants = {{0, 0, 1}, {0, 1, 0}, {1, 1, 1}, {1, 0, 0}};
-        for (int[] w : wants) due.is(w[0] + " and " + w[1], does(follower(), 2, w[0], w[1]), w[2]);
+        for (int[] w : wants) due.is(w[0] + " and " + w[1], Scenes.does(follower(), 2, w[0], w[1]), w[2]);
     }
 
     @Says(promise = 15, words = "What THE BEST PLAN does at a CHOICE, if what is KNOWN there is told by a ROW")
@@ -96,23 +91,17 @@ public final class PlanSentencesTest {
         SightChart x = Scenes.nodes(22, 22, 0);
         Scenes.parents(x, 2, 0, 1);
         Scenes.worths(x, 2, 10, -50, 0, -40);
-        due.is("the first", does(x, 0), 0);
-        due.is("behind the best", does(x, 1, 0), 0);
-        due.is("behind another one", does(x, 1, 1), 1);
+        due.is("the first", Scenes.does(x, 0), 0);
+        due.is("behind the best", Scenes.does(x, 1, 0), 0);
+        due.is("behind another one", Scenes.does(x, 1, 1), 1);
     }
 
     @Says(promise = 15, words = "What THE BEST PLAN does at a CHOICE, if what is KNOWN there is told by a ROW")
     static void doesByTheLeastDifference(Due due) {
         for (int v : new int[] {1, 0, -1}) {
-            SightChart x = Scenes.nodes(12, 12, 12, 12, 12, 12, 22, 0);
-            Scenes.weighs(x, 0, 11, 1);
-            for (int n = 1; n < 6; n++) {
-                x.parent(n, n - 1);
-                x.weigh(n, 1, 11, 1);
-            }
-            Scenes.parents(x, 7, 5, 6);
+            SightChart x = Scenes.shorterChain();
             x.worth(7, 3, v);
-            due.is(v + " by 2985984", does(x, 6, 0, 0, 0, 0, 0, 0), v > 0 ? 1 : 0);
+            due.is(v + " by 2985984", Scenes.does(x, 6, 0, 0, 0, 0, 0, 0), v > 0 ? 1 : 0);
         }
     }
 
@@ -126,7 +115,7 @@ public final class PlanSentencesTest {
         Scenes.parents(x, 5, 1, 3, 4);
         for (int p = 0; p < 4; p++) x.worth(5, p + 4 * new int[] {0, 2, 1, 2}[p], 10);
         int[][] wants = {{0, 0, 0}, {1, 0, 2}, {0, 1, 1}, {1, 1, 2}};
-        for (int[] w : wants) due.is(w[0] + " and " + w[1], does(x, 4, 9, w[0], 9, w[1]), w[2]);
+        for (int[] w : wants) due.is(w[0] + " and " + w[1], Scenes.does(x, 4, 9, w[0], 9, w[1]), w[2]);
     }
 
     @Says(promise = 15, words = "(places of NODES that are not KNOWN, or WORTHS, are not looked at)")
@@ -138,9 +127,9 @@ public final class PlanSentencesTest {
             x.sight(3, 2);
             Scenes.parents(x, 4, 2, 3);
             Scenes.worths(x, 4, 1, 0, 0, 1);
-            due.is("0 seen, beside " + v, does(x, 3, v, v, 0), 0);
-            due.is("1 seen, beside " + v, does(x, 3, v, v, 1), 1);
-            due.is("places of itself and behind it, " + v, does(x, 3, v, v, 1, v, v, v), 1);
+            due.is("0 seen, beside " + v, Scenes.does(x, 3, v, v, 0), 0);
+            due.is("1 seen, beside " + v, Scenes.does(x, 3, v, v, 1), 1);
+            due.is("places of itself and behind it, " + v, Scenes.does(x, 3, v, v, 1, v, v, v), 1);
         }
     }
 
@@ -266,6 +255,23 @@ public final class PlanSentencesTest {
         due.tells("the greater one", x, x.bestForgetting(), -99, 1);
         x = Scenes.either(-100, -100);
         due.tells("as good", x, x.bestForgetting(), -100, 1);
+    }
+
+    /** What was asked of the chart as it was before leaves nothing behind. */
+    @Says(promise = 16, words = "THE BEST of FORGETTING PLANS, told by upper(), lower(): 1")
+    static void forgettingAgainAfterAChange(Due due) {
+        SightChart x = Scenes.nodes(22, 23, 0, 0);
+        x.parent(2, 0);
+        Scenes.worths(x, 2, 1, 4);
+        x.parent(3, 1);
+        Scenes.worths(x, 3, 0, 0, 50);
+        due.tells("both", x, x.bestForgetting(), 54, 1);
+        x.firm(0, 0);
+        due.tells("the first one FIRM", x, x.bestForgetting(), 51, 1);
+        x.firm(0, NONE);
+        due.tells("both again", x, x.bestForgetting(), 54, 1);
+        x.node(2, 3);
+        due.tells("one more", x, x.bestForgetting(), 54, 1);
     }
 
     /** A chart with these NODES, each pair being a CHOICE and a CHANCE that it sees. */

@@ -6,17 +6,6 @@ public final class PlanTermSentencesTest {
         Sentences.run(PlanTermSentencesTest.class);
     }
 
-    private static int does(SightChart x, int choice, int... states) {
-        Scenes.lays(x, 0, states);
-        return x.does(choice, 0);
-    }
-
-    private static void spans(Due due, SightChart x, int node, int place, int least, int greatest) {
-        String call = "span(" + node + ", " + place + ", ";
-        due.asks(call + "false)", x, x.span(node, place, false), least);
-        due.asks(call + "true)", x, x.span(node, place, true), greatest);
-    }
-
     // ---- WORLDS, what is KNOWN
 
     @Says(promise = 0, words = "A WORLD: a STATE of each CHANCE and CHOICE; its WORTH: the sum of all WORTHS in it")
@@ -40,9 +29,9 @@ public final class PlanTermSentencesTest {
         x.weigh(0, 0, 4, 4);
         Scenes.parents(x, 2, 0, 1);
         for (int p = 2; p < 9; p += 2) x.worth(2, p, p < 8 ? 30 : 0);
-        due.is("blind", does(x, 1, 2), 0);
+        due.is("blind", Scenes.does(x, 1, 2), 0);
         x.sight(1, 0);
-        for (int s = 0; s < 3; s++) due.is("seen " + s, does(x, 1, s), 2 - s);
+        for (int s = 0; s < 3; s++) due.is("seen " + s, Scenes.does(x, 1, s), 2 - s);
         due.tells("in all of them", x, x.best(), 30, 1);
         for (int s = 0; s < 3; s++) due.tells("as often each", x, x.chance(1, s), 1, 3);
     }
@@ -54,19 +43,19 @@ public final class PlanTermSentencesTest {
         Scenes.parents(x, 3, 0, 2);
         Scenes.worths(x, 3, 5, 0, 0, 4);
         int[][] wants = {{0, 0, 0}, {1, 0, 1}, {0, 1, 0}, {1, 1, 1}};
-        for (int[] w : wants) due.is(w[0] + ", " + w[1], does(x, 2, w[0], w[1]), w[2]);
+        for (int[] w : wants) due.is(w[0] + ", " + w[1], Scenes.does(x, 2, w[0], w[1]), w[2]);
     }
 
     @Says(promise = 0, words = "and what was SEEN at them and at it")
     static void knownIsWhatWasSeen(Due due) {
         SightChart x = Scenes.coin();
-        due.is("seen at one ahead: 0", does(x, 2, 0, 0), 0);
-        due.is("seen at one ahead: 1", does(x, 2, 1, 0), 1);
+        due.is("seen at one ahead: 0", Scenes.does(x, 2, 0, 0), 0);
+        due.is("seen at one ahead: 1", Scenes.does(x, 2, 1, 0), 1);
         x.blind(1, 0);
-        due.is("seen at none", does(x, 2, 1, 0), 0);
+        due.is("seen at none", Scenes.does(x, 2, 1, 0), 0);
         x.sight(2, 0);
-        due.is("seen at it: 1", does(x, 2, 1, 0), 1);
-        due.is("not KNOWN ahead of that", does(x, 1, 99), 0);
+        due.is("seen at it: 1", Scenes.does(x, 2, 1, 0), 1);
+        due.is("not KNOWN ahead of that", Scenes.does(x, 1, 99), 0);
     }
 
     @Says(promise = 0, words = "(a FIRM one has SIGHTS, too)")
@@ -75,7 +64,7 @@ public final class PlanTermSentencesTest {
         for (int s = 0; s < 2; s++) {
             x.firm(1, s);
             due.tells("FIRM in " + s, x, x.best(), 6, 1);
-            due.is("what it saw", does(x, 2, 1, s), 1);
+            due.is("what it saw", Scenes.does(x, 2, 1, s), 1);
         }
         x.blind(1, 0);
         due.tells("blind", x, x.best(), 4, 1);
@@ -107,7 +96,7 @@ public final class PlanTermSentencesTest {
             x.parent(1, 0);
             Scenes.worths(x, 1, v);
             String call = v[0] + ", " + v[1] + ", " + v[2];
-            due.is(call, does(x, 0), want);
+            due.is(call, Scenes.does(x, 0), want);
             due.tells(call + ", its MEAN", x, x.best(), v[want], 1);
             due.tells(call + ", its chance", x, x.chance(0, want), 1, 1);
         }
@@ -116,14 +105,14 @@ public final class PlanTermSentencesTest {
     @Says(promise = 0, words = "(0 where what is KNOWN can't come about, whatever all CHOICES ahead do that are not FIRM")
     static void zeroWhereItCantComeAbout(Due due) {
         SightChart x = Scenes.coin();
-        due.is("it can", does(x, 2, 1, 0), 1);
+        due.is("it can", Scenes.does(x, 2, 1, 0), 1);
         x.weigh(0, 0, 12, 0);
-        due.is("with no WEIGHT it can't", does(x, 2, 1, 0), 0);
+        due.is("with no WEIGHT it can't", Scenes.does(x, 2, 1, 0), 0);
         x.weigh(0, 0, 11, 1);
-        due.is("with the least WEIGHT it can", does(x, 2, 1, 0), 1);
+        due.is("with the least WEIGHT it can", Scenes.does(x, 2, 1, 0), 1);
         x.firm(1, 1);
-        due.is("a FIRM one is not in 0", does(x, 2, 1, 0), 0);
-        due.is("a FIRM one is in 1", does(x, 2, 1, 1), 1);
+        due.is("a FIRM one is not in 0", Scenes.does(x, 2, 1, 0), 0);
+        due.is("a FIRM one is in 1", Scenes.does(x, 2, 1, 1), 1);
     }
 
     @Says(promise = 0, words = "whatever all CHOICES ahead do that are not FIRM")
@@ -137,10 +126,10 @@ public final class PlanTermSentencesTest {
         x.parent(4, 2);
         x.worth(4, 1, 1);
         due.tells("never done", x, x.chance(0, 1), 0, 1);
-        due.is("yet it could be", does(x, 2, 1, 1), 1);
-        due.is("this could never be", does(x, 2, 0, 1), 0);
+        due.is("yet it could be", Scenes.does(x, 2, 1, 1), 1);
+        due.is("this could never be", Scenes.does(x, 2, 0, 1), 0);
         x.firm(0, 0);
-        due.is("and now it can't be", does(x, 2, 1, 1), 0);
+        due.is("and now it can't be", Scenes.does(x, 2, 1, 1), 0);
     }
 
     @Says(promise = 0, words = "a FIRM one its STATE, always)")
@@ -148,11 +137,11 @@ public final class PlanTermSentencesTest {
         SightChart x = Scenes.coin();
         x.weigh(0, 0, 12, 0);
         x.firm(2, 1);
-        due.is("where it is worse", does(x, 2, 0, 0), 1);
-        due.is("where it can't come about", does(x, 2, 1, 0), 1);
+        due.is("where it is worse", Scenes.does(x, 2, 0, 0), 1);
+        due.is("where it can't come about", Scenes.does(x, 2, 1, 0), 1);
         x.firm(1, 1);
-        due.is("behind another one in another STATE", does(x, 2, 0, 0), 1);
-        due.is("another one", does(x, 1, 1), 1);
+        due.is("behind another one in another STATE", Scenes.does(x, 2, 0, 0), 1);
+        due.is("another one", Scenes.does(x, 1, 1), 1);
     }
 
     @Says(promise = 0, words = "THE BEST: its MEAN")
@@ -197,7 +186,7 @@ public final class PlanTermSentencesTest {
     /** The PLANS are numbered here, so that the first, the last and each one between is once the best. */
     @Says(promise = 0, words = "THE BEST of these: the greatest MEAN over all of them")
     static void eachOf512IsTried(Due due) {
-        for (int plan : new int[] {0, 1, 170, 255, 256, 341, 510, 511}) {
+        for (int plan : new int[] {0, 1, 2, 3, 4, 8, 38, 170, 255, 256, 341, 473, 510, 511}) {
             SightChart x = Scenes.nodes(13, 13, 22, 0);
             x.weigh(0, 0, 4, 4);
             x.weigh(1, 0, 4, 4);
@@ -206,6 +195,45 @@ public final class PlanTermSentencesTest {
             Scenes.parents(x, 3, 0, 1, 2);
             for (int w = 0; w < 9; w++) x.worth(3, w + 9 * (plan >> w & 1), 90);
             due.tells("PLAN " + plan, x, x.bestForgetting(), 90, 1);
+        }
+    }
+
+    /** 1 is worth 80 where all three are as seen, 40 or less elsewhere, and 0 is worth 60. */
+    @Says(promise = 0, words = "THE BEST of these: the greatest MEAN over all of them")
+    static void threeSightsAreKnownApart(Due due) {
+        for (int seen = 0; seen < 8; seen++) {
+            SightChart x = Scenes.nodes(12, 12, 12, 22, 0, 0);
+            for (int n = 0; n < 3; n++) {
+                x.weigh(n, 0, 6, 6);
+                x.sight(3, n);
+            }
+            Scenes.parents(x, 4, 0, 1, 3);
+            Scenes.parents(x, 5, 2, 3);
+            x.worth(4, seen % 4 + 4, 40);
+            x.worth(5, seen / 4 + 2, 40);
+            for (int p = 0; p < 2; p++) x.worth(5, p, 60);
+            due.tells("seen " + seen, x, x.bestForgetting(), 125, 2);
+        }
+    }
+
+    /** CHOICES with one way each, in all orders, and FIRM ones among them. */
+    @Says(promise = 0, words = "THE BEST of these: the greatest MEAN over all of them")
+    static void eachOfSeveralChoicesIsTried(Due due) {
+        for (int k = 0; k < 36; k++) {
+            int[] st = {k % 2, k / 2 % 3, k / 6 % 2, k / 12};
+            SightChart x = Scenes.nodes(22, 23, 22, 23, 0, 0);
+            Scenes.parents(x, 4, 0, 1);
+            x.worth(4, st[0] + 2 * st[1], 7);
+            Scenes.parents(x, 5, 2, 3);
+            x.worth(5, st[2] + 2 * st[3], 5);
+            due.tells("the best of all", x, x.bestForgetting(), 12, 1);
+            x.firm(1, st[1]);
+            due.tells("one FIRM in its best", x, x.bestForgetting(), 12, 1);
+            x.firm(1, (st[1] + 1) % 3);
+            due.tells("one FIRM in another one", x, x.bestForgetting(), 5, 1);
+            x.firm(1, NONE);
+            x.firm(0, st[0]);
+            due.tells("the first one FIRM", x, x.bestForgetting(), 12, 1);
         }
     }
 
@@ -303,10 +331,10 @@ public final class PlanTermSentencesTest {
 
     @Says(promise = 0, words = "SPAN of a place of a WORTH's TABLE: all whole numbers from -100 to 100")
     static void spanWithinItsEnds(Due due) {
-        spans(due, Scenes.either(100, -100), 1, 0, -100, 100);
-        spans(due, Scenes.either(100, -100), 1, 1, -100, 100);
-        spans(due, Scenes.either(-100, 100), 1, 0, -100, 99);
-        spans(due, Scenes.either(-100, 100), 1, 1, -99, 100);
+        Scenes.spans(due, Scenes.either(100, -100), 1, 0, -100, 100);
+        Scenes.spans(due, Scenes.either(100, -100), 1, 1, -100, 100);
+        Scenes.spans(due, Scenes.either(-100, 100), 1, 0, -100, 99);
+        Scenes.spans(due, Scenes.either(-100, 100), 1, 1, -99, 100);
     }
 
     @Says(promise = 0, words = "with which THE BEST PLAN at the first CHOICE that is not FIRM")
@@ -316,16 +344,28 @@ public final class PlanTermSentencesTest {
         Scenes.worths(x, 3, 2, 7);
         x.parent(4, 2);
         Scenes.worths(x, 4, 1, 8);
-        spans(due, x, 3, 1, -100, 100);
+        Scenes.spans(due, x, 3, 1, -100, 100);
         x.firm(0, 1);
-        spans(due, x, 3, 1, 3, 100);
-        spans(due, x, 3, 0, -100, 6);
-        spans(due, x, 4, 1, -100, 100);
+        Scenes.spans(due, x, 3, 1, 3, 100);
+        Scenes.spans(due, x, 3, 0, -100, 6);
+        Scenes.spans(due, x, 4, 1, -100, 100);
         x.firm(1, 0);
-        spans(due, x, 3, 1, -100, 100);
-        spans(due, x, 4, 1, 2, 100);
+        Scenes.spans(due, x, 3, 1, -100, 100);
+        Scenes.spans(due, x, 4, 1, 2, 100);
         x.firm(0, NONE);
-        spans(due, x, 4, 1, -100, 100);
+        Scenes.spans(due, x, 4, 1, -100, 100);
+    }
+
+    @Says(promise = 0, words = "with which THE BEST PLAN at the first CHOICE that is not FIRM")
+    static void spanAheadOfAFirmOne(Due due) {
+        SightChart x = Scenes.nodes(22, 22, 0);
+        Scenes.parents(x, 2, 0, 1);
+        Scenes.worths(x, 2, 9, 9, 5, 3);
+        x.firm(1, 1);
+        Scenes.spans(due, x, 2, 2, 3, 100);
+        Scenes.spans(due, x, 2, 3, -100, 5);
+        Scenes.spans(due, x, 2, 0, -100, 100);
+        Scenes.spans(due, x, 2, 1, -100, 100);
     }
 
     /** 0 is seen: what is worth something with 1 does not matter. */
@@ -336,12 +376,12 @@ public final class PlanTermSentencesTest {
         x.sight(1, 0);
         Scenes.parents(x, 2, 0, 1);
         Scenes.worths(x, 2, 3, 9, 1, 2);
-        spans(due, x, 2, 0, 1, 100);
-        spans(due, x, 2, 2, -100, 3);
-        spans(due, x, 2, 1, -100, 100);
-        spans(due, x, 2, 3, -100, 100);
+        Scenes.spans(due, x, 2, 0, 1, 100);
+        Scenes.spans(due, x, 2, 2, -100, 3);
+        Scenes.spans(due, x, 2, 1, -100, 100);
+        Scenes.spans(due, x, 2, 3, -100, 100);
         x.weigh(0, 0, 0, 12);
-        for (int p = 0; p < 4; p++) spans(due, x, 2, p, -100, 100);
+        for (int p = 0; p < 4; p++) Scenes.spans(due, x, 2, p, -100, 100);
     }
 
     /** FIRM ones ahead are in their STATES: in others they can't be, and what they saw is in 0. */
@@ -349,11 +389,11 @@ public final class PlanTermSentencesTest {
     static void spanBehindFirmOnes(Due due) {
         SightChart x = Scenes.coin();
         x.firm(1, 1);
-        spans(due, x, 3, 0, 0, 100);
-        spans(due, x, 3, 2, -100, 8);
-        spans(due, x, 3, 3, -100, 100);
+        Scenes.spans(due, x, 3, 0, 0, 100);
+        Scenes.spans(due, x, 3, 2, -100, 8);
+        Scenes.spans(due, x, 3, 3, -100, 100);
         x.blind(1, 0);
-        spans(due, x, 3, 0, 4, 100);
+        Scenes.spans(due, x, 3, 0, 4, 100);
     }
 
     /** Behind 0 all is worth the greater of 0 and v, behind 1 it is v / 2 + 5: 1 is best from -9 to 9. */
@@ -372,7 +412,7 @@ public final class PlanTermSentencesTest {
             {-100, -100, -10}};
         for (int[] p : parts) {
             x.worth(3, 3, p[0]);
-            spans(due, x, 3, 3, p[1], p[2]);
+            Scenes.spans(due, x, 3, 3, p[1], p[2]);
         }
     }
 }

@@ -108,12 +108,36 @@ final class Scenes {
     /** Seven CHANCES, each in STATE 1 with 1 in 12 if the one ahead is: all are with 1 in 35831808. */
     static SightChart chain() {
         SightChart x = nodes(12, 12, 12, 12, 12, 12, 12, 0, 0, 0);
+        link(x, 7);
+        x.parent(7, 6);
+        return x;
+    }
+
+    /** Six such CHANCES: 5 is in STATE 1 with 1 in 2985984; 6: a CHOICE; 7: what 5 and 6 are worth. */
+    static SightChart shorterChain() {
+        SightChart x = nodes(12, 12, 12, 12, 12, 12, 22, 0);
+        link(x, 6);
+        parents(x, 7, 5, 6);
+        return x;
+    }
+
+    private static void link(SightChart x, int chances) {
         weighs(x, 0, 11, 1);
-        for (int n = 1; n < 7; n++) {
+        for (int n = 1; n < chances; n++) {
             x.parent(n, n - 1);
             x.weigh(n, 1, 11, 1);
         }
-        x.parent(7, 6);
-        return x;
+    }
+
+    /** What is done where these are the STATES of all NODES ahead. */
+    static int does(SightChart x, int choice, int... states) {
+        lays(x, 0, states);
+        return x.does(choice, 0);
+    }
+
+    static void spans(Due due, SightChart x, int node, int place, int least, int greatest) {
+        String call = "span(" + node + ", " + place + ", ";
+        due.asks(call + "false)", x, x.span(node, place, false), least);
+        due.asks(call + "true)", x, x.span(node, place, true), greatest);
     }
 }

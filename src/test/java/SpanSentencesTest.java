@@ -11,12 +11,6 @@ public final class SpanSentencesTest {
         Sentences.run(SpanSentencesTest.class);
     }
 
-    private static void spans(Due due, SightChart x, int node, int place, int least, int greatest) {
-        String call = "span(" + node + ", " + place + ", ";
-        due.asks(call + "false)", x, x.span(node, place, false), least);
-        due.asks(call + "true)", x, x.span(node, place, true), greatest);
-    }
-
     // ---- 22 span
 
     /** Numbers of the STATES 0 and 1, then the SPANS of both: 0 is best as long as it is as good. */
@@ -29,8 +23,8 @@ public final class SpanSentencesTest {
         for (int[] a : all) {
             SightChart x = Scenes.either(a[0], a[1]);
             long before = x.digest();
-            spans(due, x, 1, 0, a[2], a[3]);
-            spans(due, x, 1, 1, a[4], a[5]);
+            Scenes.spans(due, x, 1, 0, a[2], a[3]);
+            Scenes.spans(due, x, 1, 1, a[4], a[5]);
             due.is("the number is as before", x.digest(), before);
         }
     }
@@ -42,8 +36,8 @@ public final class SpanSentencesTest {
             x.parent(3, 2);
             x.worth(1, 0, v);
             x.worth(3, 1, v);
-            spans(due, x, 1, 0, -100, 100);
-            spans(due, x, 3, 1, -100, 100);
+            Scenes.spans(due, x, 1, 0, -100, 100);
+            Scenes.spans(due, x, 3, 1, -100, 100);
         }
     }
 

@@ -141,6 +141,20 @@ public final class WorthSentencesTest {
         due.tells("the first NODE", x, x.inHand(0), 5, 1);
     }
 
+    /** It is best in 1 where just one of its two PARENTS is: neither tells that alone. */
+    @Says(promise = 20, words = "What a CHANCE IN HAND is worth, told by upper(), lower(): 1")
+    static void inHandSeesAllItsParents(Due due) {
+        SightChart x = Scenes.nodes(12, 12, 12, 0);
+        Scenes.weighs(x, 0, 6, 6);
+        Scenes.weighs(x, 1, 6, 6);
+        Scenes.parents(x, 3, 0, 1, 2);
+        Scenes.worths(x, 3, 10, 0, 0, 10, 0, 10, 10, 0);
+        x.parent(2, 1);
+        due.tells("one PARENT", x, x.inHand(2), 0, 1);
+        x.parent(2, 0);
+        due.tells("both PARENTS", x, x.inHand(2), 5, 1);
+    }
+
     /** Seven CHANCES less one: the whole is smaller then, and what is told is not. */
     @Says(promise = 20, words = "What a CHANCE IN HAND is worth, told by upper(), lower(): 1")
     static void inHandOfTheLongestChain(Due due) {
@@ -182,14 +196,8 @@ public final class WorthSentencesTest {
     /** 1 in 2985984 that what is seen matters, for 1. */
     @Says(promise = 21, words = "Whether a SIGHT is NEEDLESS: 1, 0")
     static void needlessByTheLeastDifference(Due due) {
-        SightChart x = Scenes.nodes(12, 12, 12, 12, 12, 12, 22, 0);
-        Scenes.weighs(x, 0, 11, 1);
-        for (int n = 1; n < 6; n++) {
-            x.parent(n, n - 1);
-            x.weigh(n, 1, 11, 1);
-        }
+        SightChart x = Scenes.shorterChain();
         x.sight(6, 5);
-        Scenes.parents(x, 7, 5, 6);
         Scenes.worths(x, 7, 1, 0, 0, 1);
         due.is("it matters", x.needless(6, 5), 0);
         x.worth(7, 3, 0);
